@@ -737,7 +737,7 @@ public final class WithEyesBound {
         }
 
         boolean isFree(int cell) {
-            return kindOf(cell) <= BOARD;
+            return cell >= 0 && cell < size && cell < kinds.length && kinds[cell] <= BOARD;
         }
 
         int firstFree() {

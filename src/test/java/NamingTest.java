@@ -242,6 +242,10 @@ public final class NamingTest {
         check.due("34 without players", x.digest(),
             mixed(0, 1, 2, 3, 1, 1, 1, 1, 1, 1, 1, 1, 0, 0, 0, 0, 0, 0, 0, 0, 3, 4, 5, -1, -1, 0,
                 4, 2, 0, 0, 8, 0, 1, 0));
+        x.set(1, 2);
+        check.due("34 set", x.digest(),
+            mixed(0, 1, 2, 3, 0, 0, 0, 0, 0, 0, 1, 0, 0, 0, 0, 0, 0, 0, 0, 0, 3, 4, 5, -1, -1, 0,
+                4, 2, 0, 0, 1, 0, 1, 0));
         x.set(0, 1);
         x.turned(2);
         x.player(5, 1, 9, 2, 3);

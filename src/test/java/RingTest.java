@@ -160,6 +160,8 @@ public final class RingTest {
         Check.write(x, "....../......");
         check.due("5 another one", x.ring(), 12);
         check.due("5 players are gone", x.count(2), 0);
+        check.due("5 the first one, too", x.about(0, 0), UNKNOWN);
+        check.due("5 and the second", x.as(1, 0), UNKNOWN);
         check.due("5 he is lost anew", x.count(4), 48);
         check.due("5 no updates", x.count(3), 0);
         check.due("5 the image is gone", x.restore(), STATE);
