@@ -58,6 +58,11 @@ public final class LanguageTest {
         }
         check.holds("1 the constants are " + fields,
             fields.equals(new TreeSet<>(Arrays.asList("NONE", "UNKNOWN", "OUTSIDE", "STATE", "FULL"))));
+        check.due("1 NONE", WithEyesBound.NONE, -1);
+        check.due("1 UNKNOWN", WithEyesBound.UNKNOWN, -101);
+        check.due("1 OUTSIDE", WithEyesBound.OUTSIDE, -102);
+        check.due("1 STATE", WithEyesBound.STATE, -103);
+        check.due("1 FULL", WithEyesBound.FULL, -104);
         Constructor<?>[] made = WithEyesBound.class.getDeclaredConstructors();
         check.due("1 constructors", made.length, 1);
         check.holds("1 the constructor", Modifier.isPublic(made[0].getModifiers()) && made[0].getParameterCount() == 0);

@@ -108,6 +108,11 @@ public final class NamingBoundaryTest {
             likely("j " + j + ", 1 has its own", x, new int[] {1, 5, 4, 0}, (10 - j) / divisor, 10 / divisor);
             likely("j " + j + ", 2 has its own", x, new int[] {2, 5, 2, 0}, 1, 1);
         }
+        WithEyesBound alike = ofSizes(5, 5, 5);
+        for (int j : new int[] {0, 3, 10}) {
+            alike.jackets(0, 2, j);
+            likely("j " + j + ", all in the same CLOTH", alike, new int[] {1, 5, 0, 0}, 1, 3);
+        }
     }
 
     @Sentence(promise = 0, says = "SAYS: the likeliest, of like ones the least.")
@@ -526,6 +531,21 @@ public final class NamingBoundaryTest {
             0, 10, 10, -1, -1, 0, 4, 2, 0, 0, 1, 0, 1, 0));
     }
 
+    @Sentence(promise = 34, says = "of each PLAYER what about() tells for 0 to 4")
+    private static void digestOfPlayers() {
+        WithEyesBound x = Check.withRing("xp/xb");
+        for (int player = 0; player < 6; player++) {
+            x.player(player, 3, 9 - player, player % 5, 4 - player % 5);
+        }
+        // The first one, who just stands, is touched at once.
+        check.due("six", x.digest(), Told.mixed(3, 2, 3, 1, 0, 0, 0, 0, 0, 0, 0, 0, 0, 0, 0, 0, 1, 1, 1, 1,
+            0, 3, 9, 0, 4, 1, 3, 8, 1, 3, 2, 3, 7, 2, 2, 3, 3, 6, 3, 1, 4, 3, 5, 4, 0, 5, 3, 4, 0, 4,
+            0, 10, 10, -1, -1, 0, 0, 0, 4, 1, 6, 0, 4, 0, 1, 0));
+        Check.readRing(x, "xp/xb");
+        check.due("none", x.digest(), Told.mixed(3, 2, 3, 1, 0, 0, 0, 0, 0, 0, 0, 0, 0, 0, 0, 0, 1, 1, 1, 1,
+            0, 10, 10, -1, -1, 0, 4, 1, 0, 0, 4, 0, 2, 0));
+    }
+
     @Sentence(promise = 34, says = "both PLAYERS of JACKETS, j (NONE, NONE, 0: none)")
     private static void digestOfJackets() {
         WithEyesBound x = ofSizes(5, 6);
@@ -552,16 +572,17 @@ public final class NamingBoundaryTest {
         y.player(0, 3, 5, 1, 2);
         check.due("nobody is touched", y.digest(), Told.mixed(0, 2, 2, 1, 1, 1, 1, 1, 0, 0, 0, 0, 0, 0, 0, 0, 1, 1, 1, 1,
             0, 3, 5, 1, 2, 0, 10, 10, -1, -1, 0, -1, 20, 4, 2, 1, 0, 8, 0, 1, 0));
-        // A corner to begin with, a long way, and a SMALL: another SEED, WAY or DRIFT would mostly end otherwise.
+        // Each CELL in which she may be told: another SEED, WAY or DRIFT would meet her in another TENTH.
         WithEyesBound z = Check.withRing("x...../....../....../......");
         long[] weights = new long[96];
         Arrays.fill(weights, 4, 96, 1);
+        z.player(0, 1, 0, 0, 0);
+        int touched = 0;
         for (int cell = 1; cell < 24; cell++) {
-            if (z.count(2) == 0) {
-                z.player(2, cell, 0, 0, 0);
-            }
             z.move(0, cell);
-            check.due("a SMALL in " + cell, z.digest(), Told.weights(weights).digestOf(z));
+            check.due("a PLAYER in " + cell, z.digest(), Told.weights(weights).digestOf(z));
+            touched += z.game(1, 0, 2, 1, 20, 0) == 0 ? 1 : 0;
         }
+        check.holds("she is met in many of them: " + touched, touched >= 8);
     }
 }

@@ -146,9 +146,11 @@ public final class OddsBoundaryTest {
         WithEyesBound x = setIn("b./..", 0, 1);
         check.refused("from a BOARD to FLOOR", x, () -> x.step(0, 3), STATE);
         check.due("that is FLOOR", x.step(0, 0), 1);
+        oddsAre("he is there", x, 1, 1, 1);
         x.set(1, 3);
         check.refused("from FLOOR to a BOARD", x, () -> x.step(0, 0), STATE);
         check.due("that is a BOARD", x.step(0, 3), 1);
+        oddsAre("he is there", x, 0, 1, 1);
         x.set(0, 0);
         check.refused("on a BOARD, ahead the ROPE", x, () -> x.step(0, 3), STATE);
         check.due("that is the ROPE", x.step(0, 1), 1);
@@ -252,6 +254,9 @@ public final class OddsBoundaryTest {
         weightsAre("both at the ROPE", x, 0, 0, 0, 0, 0, 3, 0, 0, 0, 0, 1, 0, 0, 0, 0, 0);
         x.heard(3, 1, 10);
         weightsAre("one of both", x, 0, 0, 0, 0, 0, 1, 0, 0, 0, 0, 0, 0, 0, 0, 0, 0);
+        x.lost();
+        x.heard(3, 0, 9);
+        weightsAre("even ones, but for the last", x, 2, 2, 54, 2, 2, 2, 54, 2, 2, 54, 2, 2, 15, 15, 15, 15);
     }
 
     private static BigInteger power(int base, int exponent) {
@@ -431,8 +436,17 @@ public final class OddsBoundaryTest {
                 check.due("drift " + drift + ", felt " + felt, x.step(drift, felt), 2);
             }
         }
-        WithEyesBound y = new WithEyesBound();
-        check.refused("STATE ahead, without a RING", y, () -> y.step(6, 4), STATE);
+    }
+
+    @Sentence(promise = 10, says = "STATE; OUTSIDE: drift, felt")
+    private static void stepWithoutRing() {
+        WithEyesBound x = new WithEyesBound();
+        for (int felt = 0; felt <= 3; felt++) {
+            int so = felt;
+            check.refused("felt " + felt, x, () -> x.step(0, so), STATE);
+        }
+        check.refused("ahead of OUTSIDE: drift", x, () -> x.step(6, 0), STATE);
+        check.refused("ahead of OUTSIDE: felt", x, () -> x.step(0, 4), STATE);
     }
 
     @Sentence(promise = 10, says = "FULL;")
@@ -616,6 +630,9 @@ public final class OddsBoundaryTest {
         fraction("8 of 10", part -> x.expected(0, 1, 0, 0, part), 4, 5);
         fraction("a call, never right", part -> x.expected(3, 0, 8, 0, part), 1, 1);
         fraction("LOST, a call", part -> Check.withRing(WIDE).expected(3, 0, 35, 5, part), 1, 36);
+        // Down to 3, ahead to 0, up the ROPE: the FLOOR of 0 and 3 cannot be told apart.
+        WithEyesBound corner = setIn(FOUR, 1, 3);
+        fraction("to the first CELL", part -> corner.expected(0, 1, 0, 0, part), 9, 10);
         WithEyesBound y = Check.withRing(WIDE);
         for (int i = 0; i < 7; i++) {
             y.heard(0, 0, 9);
@@ -635,10 +652,18 @@ public final class OddsBoundaryTest {
             check.refusedBeyond("part of " + doing, x, 0, 1, OUTSIDE, part -> x.expected(done, 0, 9, 99, part));
             check.taken("drift of " + doing, 0, 5, drift -> x.expected(done, drift, 0, 0, 0));
         }
-        WithEyesBound y = new WithEyesBound();
-        check.refused("without a RING", y, () -> y.expected(0, 0, 0, 0, 0), STATE);
-        check.refused("without a RING, ahead of OUTSIDE", y, () -> y.expected(4, 6, 0, 0, 2), STATE);
-        check.refused("without a RING, a call", y, () -> y.expected(3, 0, 0, 0, 0), STATE);
+    }
+
+    @Sentence(promise = 16, says = "STATE; OUTSIDE: doing")
+    private static void expectedWithoutRing() {
+        WithEyesBound x = new WithEyesBound();
+        for (int doing = 0; doing <= 3; doing++) {
+            int done = doing;
+            check.refused("doing " + doing, x, () -> x.expected(done, 0, 0, 0, 0), STATE);
+        }
+        check.refused("ahead of OUTSIDE: doing", x, () -> x.expected(4, 0, 0, 0, 0), STATE);
+        check.refused("ahead of OUTSIDE: drift, part", x, () -> x.expected(0, 6, 0, 0, 2), STATE);
+        check.refused("ahead of UNKNOWN", x, () -> x.expected(3, 0, -1, 11, 0), STATE);
     }
 
     @Sentence(promise = 16, says = "UNKNOWN: cell of a 3 (not looked at else)")

@@ -189,7 +189,10 @@ public final class PlayersBoundaryTest {
         notTouched("down ahead of left", with(".p./.../...", BEHIND, 5), 4, 0, 4);
         notTouched("up ahead of right", with(".../.../.p.", BEHIND, 3), 4, 2, 4);
         notTouched("up ahead of left", with(".../.../.p.", BEHIND, 5), 4, 2, 4);
-        notTouched("there it stays", with(".p./.../...", BEHIND, 7), 4, 0, 4);
+        notTouched("below it stays", with(".p./.../...", BEHIND, 7), 4, 0, 4);
+        notTouched("to the left it stays", with(".../..p/...", BEHIND, 3), 4, 1, 4);
+        notTouched("above it stays", with(".../.../.p.", BEHIND, 1), 4, 2, 4);
+        notTouched("to the right it stays", with(".../p../...", BEHIND, 5), 4, 3, 4);
         touchedAtOnce("shut in it stays", with(SHUT, BEHIND, 0), 0, 0, 0);
     }
 

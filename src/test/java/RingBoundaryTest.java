@@ -391,6 +391,7 @@ public final class RingBoundaryTest {
         Check.readRing(x, ".x/xx");
         check.due("all is new", x.digest(), Told.weights(1, 1, 1, 1, 0, 0, 0, 0, 0, 0, 0, 0, 0, 0, 0, 0).digestOf(x));
         check.due("CELLS", x.count(0), 4);
+        check.due("FREE ones", x.count(1), 1);
         check.due("the old ones", x.cell(35), UNKNOWN);
         check.due("PLAYERS", x.count(2), 0);
         check.refused("the first PLAYER", x, () -> x.about(0, 0), UNKNOWN);
